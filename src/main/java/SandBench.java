@@ -492,11 +492,13 @@ public final class SandBench {
         }
 
         boolean allows(int handling) {
-            for (int g = 0; g < Glasses.MOST; g++) {
-                int digit = Handling.digit(handling, g);
+            int rest = handling;
+            for (int g = 0; g < Glasses.MOST && rest != 0; g++) {
+                int digit = rest & 3;
                 if (digit != Handling.NOTHING && !allowsDigit(g, digit, handling)) {
                     return false;
                 }
+                rest >>= 2;
             }
             return true;
         }
@@ -672,6 +674,11 @@ public final class SandBench {
         // A glass that stands has three digits at most, one that is laid has two.
         private static final int MOST_WAYS = MOST * 81;
 
+        // Where in a way the goal's number ends, and the moments, and the handling with its count behind.
+        private static final int GOAL_BITS = 10;
+        private static final int TIMED_BITS = 16;
+        private static final int HANDLED_BITS = 24;
+
         private final Glasses glasses;
         private final Config config;
         private final long[] keys = new long[MOST];
@@ -748,7 +755,8 @@ public final class SandBench {
                 spent = true;
                 return;
             }
-            ways[wayCount] = handling << 16 | passing << 10 | to;
+            ways[wayCount] = Handling.countOf(handling) << HANDLED_BITS
+                    | handling << TIMED_BITS | passing << GOAL_BITS | to;
             wayCount++;
         }
 
@@ -812,11 +820,15 @@ public final class SandBench {
         }
 
         static int passing(int way) {
-            return way >> 10 & 63;
+            return way >> GOAL_BITS & 63;
         }
 
         static int handling(int way) {
-            return way >> 16;
+            return way >> TIMED_BITS & 255;
+        }
+
+        static int counted(int way) {
+            return way >> HANDLED_BITS;
         }
     }
 
@@ -949,30 +961,25 @@ public final class SandBench {
             if (!goesOn(c, s) || reached.earliestOf(c) + s > LONGEST_SPAN) {
                 return NO_SUM;
             }
-            int least = NO_SUM;
-            for (int w = reached.startOfWays(c); w < reached.endOfWays(c); w++) {
-                least = Math.min(least, sumBy(reached.way(w), s));
-            }
-            return least;
+            return sumBy(bestWay(c, s), s);
         }
 
         private int sumBy(int way, int s) {
             int left = s - Reached.passing(way);
-            if (left < 0) {
-                return NO_SUM;
-            }
-            return Handling.countOf(Reached.handling(way)) + sums[left * Reached.MOST + Reached.goal(way)];
+            return left < 0 ? NO_SUM : Reached.counted(way) + sums[left * Reached.MOST + Reached.goal(way)];
         }
 
         /** Ways are kept from the least handling on, so the first of the best is the plan's. */
         private int bestWay(int c, int s) {
             int best = 0;
             int least = NO_SUM;
-            for (int w = reached.startOfWays(c); w < reached.endOfWays(c); w++) {
-                int sum = sumBy(reached.way(w), s);
+            int end = reached.endOfWays(c);
+            for (int w = reached.startOfWays(c); w < end; w++) {
+                int way = reached.way(w);
+                int sum = sumBy(way, s);
                 if (sum < least) {
                     least = sum;
-                    best = reached.way(w);
+                    best = way;
                 }
             }
             return best;

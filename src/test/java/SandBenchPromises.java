@@ -48,6 +48,7 @@ public final class SandBenchPromises {
         fewestAndPlan();
         planOfEqualSums();
         soonest();
+        soonestByAnyWay();
         soonestFarOff();
         spentRefusals();
         nothingThere();
@@ -340,6 +341,12 @@ public final class SandBenchPromises {
         due(4, x.next());
         due(1, x.can(1));
         due(1, x.can(5));
+        x = bench(STOPPED, 4, 0, TWIN, 2, 0);
+        due(0, x.can(2 + 4));
+        due(1, x.hand(2));
+        due(0, x.can(3 + 4));
+        due(0, x.can(4));
+        due(1, x.can(3));
     }
 
     private static void hand() {
@@ -702,6 +709,17 @@ public final class SandBenchPromises {
         due(NEVER, bench(LATE, 2, 9).soonest(2));
     }
 
+    private static void soonestByAnyWay() {
+        begin("promise 24, the sooner of many ways");
+        due(11, bench(PLAIN, 2, 0, PLAIN, 11, 0, TWIN, 8, 1).soonest(1));
+        due(11, bench(STOPPED, 11, 0, PLAIN, 12, 0, TWIN, 2, 1).soonest(1));
+        due(13, bench(STIFF, 2, 0, PLAIN, 13, 0, TWIN, 10, 1).soonest(1));
+        due(10, bench(STIFF, 4, 0, PLAIN, 12, 0, STIFF, 9, 0).soonest(2));
+        SandBench x = bench(LATE, 7, 5, LATE, 8, 8, TWIN, 2, 0);
+        due(32, x.soonest(1));
+        due(27, x.soonest(5));
+    }
+
     private static void soonestFarOff() {
         begin("promise 24, behind moment 60");
         SandBench x = bench(PLAIN, 29, 0, PLAIN, 30, 0);
@@ -876,6 +894,7 @@ public final class SandBenchPromises {
         due(5, x.plan(9, 0));
         due(4, x.plan(7, 0));
         due(7, x.soonest(3));
+        due(1, x.plan(8, 0));
         x.cell(3, 0, 8);
         due(1, x.fill(1, 3, 0));
         due(NEVER, x.fewest(9));
